@@ -488,7 +488,7 @@ public final class HalfAccuser {
             return settled(refusal);
         }
         hopes.see();
-        games.set(person, other, turns);
+        games.setGame(person, other, turns);
         return tell(games.play(0, 0), hopes.whole());
     }
 
@@ -498,7 +498,7 @@ public final class HalfAccuser {
             return refused(refusal);
         }
         hopes.see();
-        games.set(person, other, turns);
+        games.setGame(person, other, turns);
         return toldIfAny(games.firstMove());
     }
 
@@ -507,6 +507,7 @@ public final class HalfAccuser {
             return refused(BAD_NUMBER);
         }
         hopes.see();
+        games.setClub();
         return told(games.stayers(people));
     }
 
@@ -515,6 +516,7 @@ public final class HalfAccuser {
             return settled(BAD_NUMBER);
         }
         hopes.see();
+        games.setClub();
         return tell(games.sumOfDreads(people), hopes.whole() * Integer.bitCount(people));
     }
 
@@ -925,7 +927,8 @@ public final class HalfAccuser {
                 i = end;
             }
             addToken(AT_END, n, 0);
-            handOut(0);
+            now = -1;
+            pass();
         }
 
         private void addToken(int kind, int place, long value) {
@@ -1003,13 +1006,6 @@ public final class HalfAccuser {
             return c >= '0' && c <= '9';
         }
 
-        private void handOut(int token) {
-            now = token;
-            kind = at(kinds, token);
-            place = at(places, token);
-            value = at(values, token);
-        }
-
         boolean isWord(int keyword) {
             return kind == KEYWORD && value == keyword;
         }
@@ -1027,7 +1023,10 @@ public final class HalfAccuser {
 
         void pass() {
             taken = value;
-            handOut(now + 1);
+            now++;
+            kind = at(kinds, now);
+            place = at(places, now);
+            value = at(values, now);
         }
 
         boolean takeWord(int keyword) {
@@ -1971,6 +1970,7 @@ public final class HalfAccuser {
         final Hopes hopes;
         final int[] movers = new int[MOST_DEEDS];
         final long[] worths = new long[MOST_DEEDS];
+        final long[] dreads = new long[MOST_PEOPLE];
         int turns;
 
         Games(City city, Hopes hopes) {
@@ -1978,7 +1978,7 @@ public final class HalfAccuser {
             this.hopes = hopes;
         }
 
-        void set(int person, int other, int manyTurns) {
+        void setGame(int person, int other, int manyTurns) {
             turns = manyTurns;
             for (int d = 0; d < city.deeds; d++) {
                 put(movers, d, NOBODY);
@@ -2019,10 +2019,16 @@ public final class HalfAccuser {
             return NONE;
         }
 
+        void setClub() {
+            for (int p = 0; p < city.people; p++) {
+                put(dreads, p, hopes.dreadOf(p));
+            }
+        }
+
         long sumOfDreads(int people) {
             long sum = 0;
             for (int p = 0; p < city.people; p++) {
-                sum += isIn(people, p) ? hopes.dreadOf(p) : 0;
+                sum += isIn(people, p) ? at(dreads, p) : 0;
             }
             return sum;
         }
@@ -2045,7 +2051,7 @@ public final class HalfAccuser {
             int many = Integer.bitCount(set);
             int leaving = 0;
             for (int p = 0; p < city.people; p++) {
-                if (isIn(set, p) && hopes.dreadOf(p) * many < sum) {
+                if (isIn(set, p) && at(dreads, p) * many < sum) {
                     leaving |= 1 << p;
                 }
             }
@@ -2205,7 +2211,11 @@ public final class HalfAccuser {
                     accuse(city, first, second);
                     break;
                 case DROP:
-                    dropOrMiss(city, first, second, number);
+                    if (city.mayDrop(first, second, number)) {
+                        city.settle(first, second, number);
+                    } else {
+                        count(MISSED);
+                    }
                     break;
                 case EARN:
                     city.give(first, number);
@@ -2243,14 +2253,6 @@ public final class HalfAccuser {
                 count(WINS);
             } else if (outcome == City.OWED) {
                 count(DEBTS);
-            }
-        }
-
-        private void dropOrMiss(City city, int person, int deed, int much) {
-            if (city.mayDrop(person, deed, much)) {
-                city.settle(person, deed, much);
-            } else {
-                count(MISSED);
             }
         }
 

@@ -29,9 +29,9 @@ public final class RandomTests {
 
     private void run(int seed) {
         for (int turn = 0; turn < 300 && !unlike; turn++) {
-            if (turn == 0 || random.nextInt(40) == 0) {
-                city();
-            } else if (random.nextInt(20) == 0) {
+            if (turn == 0 || random.nextInt(60) == 0) {
+                city(turn == 0 && pick(8) > 0);
+            } else if (random.nextInt(20) == 0 && (plain.w.people.size() > 0 || pick(4) == 0)) {
                 years();
             } else {
                 callAny();
@@ -80,6 +80,14 @@ public final class RandomTests {
         return Math.max(1, plain.w.deeds.size());
     }
 
+    private long who() {
+        return pick(12) == 0 ? number(people()) : pick(people());
+    }
+
+    private long what() {
+        return pick(12) == 0 ? number(deeds()) : pick(deeds());
+    }
+
     private void callAny() {
         int which = pick(Calls.NAMES.length);
         String name = Calls.NAMES[which];
@@ -90,6 +98,37 @@ public final class RandomTests {
             return;
         }
         both(name, arguments(name, Calls.ARGUMENTS[which]));
+        if (plain.status != 0 && pick(10) == 0) {
+            seeAll();
+        }
+    }
+
+    // What was refused must have changed nothing that can be seen.
+    private void seeAll() {
+        for (int i = 0; i < 11; i++) {
+            both("many", i);
+        }
+        for (int p = 0; p < plain.w.people.size(); p++) {
+            for (int what = 0; what < 6; what++) {
+                both("person", p, what);
+            }
+        }
+        for (int d = 0; d < plain.w.deeds.size(); d++) {
+            for (int what = 0; what < 6; what++) {
+                both("deed", d, what);
+            }
+        }
+        for (int tray = 0; tray < 4; tray++) {
+            for (int i = 0; plain.trays[tray] != null && i < plain.trays[tray].length; i++) {
+                both("read", tray, i);
+            }
+        }
+        for (int what = 0; what < 5; what++) {
+            both("lived", what);
+        }
+        both("fault", 0);
+        both("fault", 1);
+        both("mean", 77, 1);
     }
 
     private long[] arguments(String name, int many) {
@@ -101,27 +140,27 @@ public final class RandomTests {
             case "feed": return new long[] {random.nextInt(), random.nextInt(), 0, 1, 2};
             case "fault": return new long[] {number(2)};
             case "many": return new long[] {number(11)};
-            case "person": return new long[] {number(people()), number(6)};
-            case "deed": return new long[] {number(deeds()), number(6)};
+            case "person": return new long[] {who(), number(6)};
+            case "deed": return new long[] {what(), number(6)};
             case "copyCoins": return new long[] {number(3)};
-            case "charge": return new long[] {number(people()), number(deeds()), number(plain.w.rules[0])};
-            case "hear": return new long[] {number(people()), number(deeds()), number(9999)};
-            case "drop": return new long[] {number(people()), number(deeds()), number(pick(3) == 0 ? 9999 : 50)};
-            case "commit": return new long[] {number(people()), number(999), number(16)};
-            case "train": return new long[] {number(people()), number(16)};
-            case "earn": return new long[] {number(people()), pick(3) == 0 ? number(9999) : number(200) - 70};
+            case "charge": return new long[] {who(), what(), number(plain.w.rules[0])};
+            case "hear": return new long[] {who(), what(), number(9999)};
+            case "drop": return new long[] {who(), what(), number(pick(3) == 0 ? 9999 : 50)};
+            case "commit": return new long[] {who(), number(999), number(16)};
+            case "train": return new long[] {who(), number(16)};
+            case "earn": return new long[] {who(), pick(3) == 0 ? number(9999) : number(200) - 70};
             case "rule": return rule();
-            case "votes": return new long[] {number(people()), number(deeds()), number(plain.w.rules[0])};
-            case "plan": return new long[] {number(people()), number(10)};
-            case "trade": return new long[] {number(people()), number(deeds()), number(1)};
+            case "votes": return new long[] {who(), what(), number(plain.w.rules[0])};
+            case "plan": return new long[] {who(), number(10)};
+            case "trade": return new long[] {who(), what(), number(1)};
             case "gladBy": return new long[] {number(16), number(999)};
             case "game":
-            case "moveOf": return new long[] {number(people()), number(people()), number(3)};
+            case "moveOf": return new long[] {who(), who(), number(3)};
             case "club":
             case "clubPart": return new long[] {number((1 << plain.w.people.size()) - 1)};
             case "gained":
-            case "sure": return new long[] {number(people()), much()};
-            case "bound": return new long[] {number(people()), number(1)};
+            case "sure": return new long[] {who(), much()};
+            case "bound": return new long[] {who(), number(1)};
             case "live": return new long[] {number(9999)};
             case "lived": return new long[] {number(4)};
             case "mean": return new long[] {number(9999), number(pick(3) == 0 ? 20 : 3)};
@@ -130,12 +169,12 @@ public final class RandomTests {
             case "mostPenalty":
             case "accuser":
             case "friend":
-            case "reopen": return new long[] {number(deeds())};
+            case "reopen": return new long[] {what()};
             case "best":
             case "dread":
-            case "dreaded": return new long[] {number(people())};
+            case "dreaded": return new long[] {who()};
             default:
-                return many == 2 ? new long[] {number(people()), number(deeds())} : new long[many];
+                return many == 2 ? new long[] {who(), what()} : new long[many];
         }
     }
 
@@ -157,7 +196,7 @@ public final class RandomTests {
         return sum;
     }
 
-    private void city() {
+    private void city(boolean whole) {
         List<String> tokens = new ArrayList<>();
         for (int r = 0; r < 4; r++) {
             if (pick(2) == 0) {
@@ -165,7 +204,7 @@ public final class RandomTests {
                         + pick(Plain.RULE_MOST[r] - Plain.RULE_LEAST[r] + 1)), ";");
             }
         }
-        int people = pick(10) == 0 ? pick(10) : 1 + pick(6);
+        int people = !whole && pick(10) == 0 ? pick(10) : 2 + pick(5);
         for (int p = 0; p < people; p++) {
             add(tokens, "person", "p" + (char) ('a' + p));
             if (pick(3) > 0) {
@@ -176,12 +215,12 @@ public final class RandomTests {
             }
             add(tokens, ";");
         }
-        int deeds = people == 0 ? 0 : pick(10) == 0 ? pick(12) : 1 + pick(7);
+        int deeds = people == 0 ? 0 : !whole && pick(10) == 0 ? pick(12) : 1 + pick(8);
         for (int d = 0; d < deeds; d++) {
             add(tokens, "deed", "d" + (char) ('a' + d), "of", "p" + (char) ('a' + pick(people)), "fine",
                     "" + (1 + pick(pick(3) == 0 ? 5 : 999)), "odds", "" + pick(17), ";");
         }
-        send(tokens, true);
+        send(tokens, true, !whole && pick(3) == 0);
     }
 
     private static void add(List<String> tokens, String... more) {
@@ -233,17 +272,18 @@ public final class RandomTests {
         for (; depth > 0; depth--) {
             add(tokens, "end", ";");
         }
-        send(tokens, false);
+        send(tokens, false, pick(3) == 0);
     }
 
-    private void send(List<String> tokens, boolean city) {
-        if (pick(3) == 0) {
+    private void send(List<String> tokens, boolean city, boolean spoilt) {
+        if (spoilt && pick(6) > 0) {
             spoil(tokens);
         }
         StringBuilder text = new StringBuilder();
         for (String token : tokens) {
-            boolean needsBlank = text.length() > 0 && Character.isLetterOrDigit(text.charAt(text.length() - 1));
-            int blanks = pick(6) == 0 ? pick(3) : needsBlank && Character.isLetterOrDigit(token.charAt(0)) ? 1 : 0;
+            int last = text.length() == 0 ? ';' : text.charAt(text.length() - 1);
+            int least = !spoilt && Character.isLetterOrDigit(last) && Character.isLetterOrDigit(token.charAt(0)) ? 1 : 0;
+            int blanks = pick(6) == 0 ? Math.max(least, pick(3)) : least;
             for (int i = 0; i < blanks; i++) {
                 text.append(pick(4) == 0 ? '\n' : ' ');
             }
@@ -265,7 +305,7 @@ public final class RandomTests {
             both("feed", five);
         }
         story.append(all).append('\n');
-        both(city ? "city" : "years", pick(15) == 0 ? pick(n + 1) : n);
+        both(city ? "city" : "years", spoilt && pick(5) == 0 ? pick(n + 1) : n);
         both("fault", 0);
         both("fault", 1);
     }

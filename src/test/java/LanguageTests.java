@@ -1,0 +1,132 @@
+import java.io.IOException;
+import java.lang.reflect.Constructor;
+import java.lang.reflect.Field;
+import java.lang.reflect.Method;
+import java.lang.reflect.Modifier;
+import java.nio.charset.StandardCharsets;
+import java.nio.file.Files;
+import java.nio.file.Paths;
+import java.util.Arrays;
+import java.util.HashSet;
+import java.util.Set;
+import java.util.TreeSet;
+import java.util.regex.Matcher;
+import java.util.regex.Pattern;
+
+/** What of LANGUAGE.md can be seen from the source and the classes. */
+public final class LanguageTests {
+    private static final String[] RULED_OUT = {"->", "::", "\\bfinally\\b", "\\bsynchronized\\b", "\\bassert\\b",
+        "\\bthrow\\b", "\\bthrows\\b", "\\bcatch\\b", "\\btry\\b", "\\bstatic\\s*\\{", "@", "\\bprotected\\b",
+        "\\bpackage\\b", "\\bfloat\\b", "\\bdouble\\b", "\\bThread\\b", "\\bSystem\\.(?!arraycopy\\b)", "Exact\\b",
+        "\\bMath\\.(?!max\\b|min\\b|abs\\b)", "\\bInteger\\.(?!bitCount\\b)", "\\bArrays\\.(?!fill\\b)", "\\bObject\\b",
+        "\\bvar\\b", "\\byield\\b", "\\binstanceof\\b", "\\.equals\\(", "\\bhashCode\\b", "\\btoString\\b"};
+
+    private LanguageTests() {
+    }
+
+    public static void main(String[] args) throws IOException {
+        String source = new String(Files.readAllBytes(Paths.get("src/main/java/HalfAccuser.java")),
+                StandardCharsets.UTF_8);
+        ruledOut(source);
+        methodLengths(source);
+        face();
+        insides();
+        Check.end("LanguageTests");
+    }
+
+    private static void ruledOut(String source) {
+        String code = source.replaceAll("(?s)/\\*.*?\\*/", "").replaceAll("//[^\n]*", "")
+                .replaceAll("\"[^\"\n]*\"", "\"\"").replaceAll("'(\\\\.|[^'])'", "' '");
+        for (String out : RULED_OUT) {
+            Matcher m = Pattern.compile(out).matcher(code);
+            Check.that("ruled out: " + out, !m.find());
+        }
+        Matcher imports = Pattern.compile("import ([^;]*);").matcher(code);
+        while (imports.find()) {
+            Check.that(imports.group(1), imports.group(1).matches("java\\.util\\.(Arrays|ArrayList|List)"));
+        }
+        Check.that("texts joined by +", !Pattern.compile("\"\\s*\\+|\\+\\s*\"").matcher(code).find());
+        for (int i = 0; i < source.length(); i++) {
+            if (source.charAt(i) > 126) {
+                Check.that("a sign above 126 at " + i, false);
+            }
+        }
+    }
+
+    private static void methodLengths(String source) {
+        String[] lines = source.split("\n");
+        int start = -1;
+        String indent = "";
+        for (int i = 0; i < lines.length; i++) {
+            Matcher m = Pattern.compile("^( {4}| {8})(?=\\S)[\\w\\[\\] ]*\\w+\\([^;]*\\) \\{$").matcher(lines[i]);
+            if (start < 0 && m.find()) {
+                start = i;
+                indent = m.group(1);
+            } else if (start >= 0 && lines[i].equals(indent + "}")) {
+                Check.that("a method of " + (i - start + 1) + " lines: " + lines[start], i - start + 1 <= 60);
+                start = -1;
+            }
+        }
+    }
+
+    private static void face() {
+        Set<String> methods = new TreeSet<>();
+        Set<String> shut = new HashSet<>();
+        for (Method m : HalfAccuser.class.getDeclaredMethods()) {
+            if (Modifier.isPublic(m.getModifiers())) {
+                methods.add(m.getName());
+                Check.that("two of a name: " + m.getName(), m.getParameterCount() == arguments(m.getName()));
+            } else {
+                Check.that(m + " is not private", Modifier.isPrivate(m.getModifiers()));
+                shut.add(m.getName());
+            }
+        }
+        Check.that("the face is " + methods, methods.equals(new TreeSet<>(Arrays.asList(Calls.NAMES))));
+        for (Class<?> c : HalfAccuser.class.getDeclaredClasses()) {
+            for (Method m : c.getDeclaredMethods()) {
+                shut.add(m.getName());
+            }
+        }
+        shut.retainAll(methods);
+        Check.that("named as of the face: " + shut, shut.isEmpty());
+        Check.that("the class is final", Modifier.isFinal(HalfAccuser.class.getModifiers()));
+        Check.that("one constructor", HalfAccuser.class.getDeclaredConstructors().length == 1);
+        for (Field f : HalfAccuser.class.getDeclaredFields()) {
+            boolean none = f.getName().equals("NONE");
+            Check.that(f + " is seen", none ? Modifier.isPublic(f.getModifiers()) : Modifier.isPrivate(f.getModifiers()));
+        }
+    }
+
+    private static int arguments(String name) {
+        return Calls.ARGUMENTS[Arrays.asList(Calls.NAMES).indexOf(name)];
+    }
+
+    private static void insides() {
+        Class<?>[] inside = HalfAccuser.class.getDeclaredClasses();
+        Check.that(inside.length + " classes inside", inside.length <= 12);
+        oneClass(HalfAccuser.class);
+        for (Class<?> c : inside) {
+            Check.that(c + " is static", Modifier.isStatic(c.getModifiers()));
+            Check.that(c + " is not seen", !Modifier.isPublic(c.getModifiers()));
+            oneClass(c);
+        }
+    }
+
+    private static void oneClass(Class<?> c) {
+        int fields = 0;
+        for (Field f : c.getDeclaredFields()) {
+            if (Modifier.isStatic(f.getModifiers())) {
+                Check.that(f + " is final", Modifier.isFinal(f.getModifiers()));
+            } else {
+                fields++;
+            }
+        }
+        Check.that(c + " has " + fields + " fields", fields <= 20);
+        for (Method m : c.getDeclaredMethods()) {
+            Check.that(m + " takes too many", m.getParameterCount() <= 7);
+        }
+        for (Constructor<?> m : c.getDeclaredConstructors()) {
+            Check.that(m + " takes too many", m.getParameterCount() <= 7);
+        }
+    }
+}
