@@ -624,7 +624,6 @@ public final class HalfAccuser {
         return hopes;
     }
 
-
     private boolean settled(int newStatus) {
         latestStatus = newStatus;
         return newStatus == DONE;

@@ -36,6 +36,7 @@ public final class PromiseTests {
         chances();
         halves();
         whomToCharge();
+        leastGlad();
         shares();
         games();
         clubs();
@@ -316,6 +317,12 @@ public final class PromiseTests {
         noCity("person ann coins 10000;", 1, 17);
         noCity("person ann coins;", 2, 16);
         noCity("person ann skill 17;", 4, 17);
+        noCity("person ann coins person bob;", 2, 17);
+        noCity("person ann skill person bob;", 2, 17);
+        noCity("person ann;deed jurors 3;", 2, 16);
+        noCity("person ann;deed a of person bob;", 2, 21);
+        noCity("person ann;deed a of ann fine person bob;", 2, 30);
+        noCity("person ann;deed a of ann fine 1 odds person bob;", 2, 37);
         noCity("person ann;person ann;", 3, 18);
         noCity("deed lie of ann fine 1 odds 1;", 3, 12);
         noCity("person ann;deed ann of ann fine 1 odds 1;", 3, 16);
@@ -333,6 +340,7 @@ public final class PromiseTests {
         isCity(" \n ", 0);
         isCity(times("person #;", 8), 0);
         isCity("person p;" + times("deed # of p fine 1 odds 0;", 10), 10);
+        isCity("person ab;person ba;person aa;person bbbbbbbb;person abbbbbbb;person bbbbbbba;person abcdefg;", 0);
         isCity("person abcdefgh coins 9999 skill 16;deed a of abcdefgh fine 999 odds 16;", 1);
         isCity("jurors0003;fifth 9;penalty 999;share 16;person ann coins 0 skill 0;", 0);
         isCity("jurors 1;fifth 0;penalty 0;share 0;person coin;person endx;person a;", 0);
@@ -395,6 +403,9 @@ public final class PromiseTests {
         isYears(times("any;", 30), 30);
         isYears(times("any;", 27) + times("loop 1;", 3) + times("end;", 3), 30);
         isYears("loop 99;end;when coins ann<0;end;when coins ann=9999;end;when coins ann > 5;end;", 4);
+        isYears(times("loop 1;end;", 26) + "earn ann 8;", 27);
+        due(11, 27, "live", 0);
+        due(11, 65, "person", ANN, 0);
         isYears("drop ann lie for 0;drop ann lie for 9999;earn ann 1;earn ann 999;", 4);
         Calls.city(x, CITY);
         refused(11, 8, "live", 0);
@@ -778,6 +789,28 @@ public final class PromiseTests {
         refused(37, 8, "friend", 1);
     }
 
+    // The least GAIN that there is above 0.
+    private static void leastGlad() {
+        fresh("jurors 9;fifth 0;share 16;person ann;person bob;deed lie of bob fine 1 odds 1;");
+        due(28, 1, "wins", ANN, 0);
+        due(32, 0, "best", ANN);
+        due(34, 0, "accuser", 0);
+        due(35, 0, "dreaded", BOB);
+        due(38, 0, "quiet");
+        due(30, 1, "rule", 0, 1);
+        fraction(30, 1, 16, "gain", ANN, 0);
+        fraction(36, 1, 16, "dread", BOB);
+        due(32, 0, "best", ANN);
+        due(34, 0, "accuser", 0);
+        due(35, 0, "dreaded", BOB);
+        due(38, 1, "rule", 3, 15);
+        fraction(30, 0, 1, "gain", ANN, 0);
+        due(38, 1, "quiet");
+        refused(32, 8, "best", ANN);
+        refused(34, 8, "accuser", 0);
+        refused(35, 8, "dreaded", BOB);
+    }
+
     private static void shares() {
         fresh(HALF);
         trades();
@@ -818,6 +851,11 @@ public final class PromiseTests {
         due(41, 501, "leastFine", 0);
         due(41, 1, "rule", 2, 0);
         due(41, 1, "leastFine", 0);
+        due(41, 1, "rule", 2, 998);
+        due(41, 999, "leastFine", 0);
+        due(41, 1, "rule", 2, 999);
+        refused(41, 8, "leastFine", 0);
+        due(42, 1, "rule", 2, 0);
         due(42, 20, "charge", ANN, 0, 0);
         refused(40, 8, "leastShare", 0);
         refused(41, 8, "leastFine", 0);
