@@ -1,3 +1,6 @@
+import java.util.ArrayList;
+import java.util.List;
+
 /** Calls of the face by name, with a boolean as 1 or 0. */
 final class Calls {
     static final String[] NAMES = {"status", "top", "bottom", "tray", "write", "read", "pour", "feed", "city", "years",
@@ -87,15 +90,24 @@ final class Calls {
         return b ? 1 : 0;
     }
 
-    /** Feeds a text, filled with blanks; its length. */
-    static int feed(HalfAccuser x, String text) {
+    /** A text, filled with blanks, as the arguments by which it is fed. */
+    static List<long[]> fives(String text) {
+        List<long[]> all = new ArrayList<>();
         for (int i = 0; i < text.length(); i += 20) {
-            int[] five = new int[5];
+            long[] five = new long[5];
             for (int k = 0; k < 20; k++) {
                 int c = i + k < text.length() ? text.charAt(i + k) : ' ';
-                five[k / 4] = five[k / 4] << 8 | c & 255;
+                five[k / 4] = (int) (five[k / 4] << 8 | c & 255);
             }
-            x.feed(five[0], five[1], five[2], five[3], five[4]);
+            all.add(five);
+        }
+        return all;
+    }
+
+    /** Feeds a text; its length. */
+    static int feed(HalfAccuser x, String text) {
+        for (long[] five : fives(text)) {
+            call(x, "feed", five);
         }
         return text.length();
     }

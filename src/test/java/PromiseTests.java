@@ -1,5 +1,5 @@
 /** Every promise by small cases whose answers were worked out by hand. */
-public final class PromiseTests {
+public final class PromiseTests extends Trial {
     private static final String CITY = "jurors 3;fifth 1;penalty 40;share 8;person ann coins 50 skill 4;"
             + "person bob coins 200;person cid coins 30 skill 8;person dot coins 0 skill 2;"
             + "deed theft of bob fine 100 odds 8;deed lie of bob fine 60 odds 4;"
@@ -13,8 +13,6 @@ public final class PromiseTests {
     private static final int BOB = 1;
     private static final int CID = 2;
     private static final int DOT = 3;
-
-    private static HalfAccuser x = new HalfAccuser();
 
     private PromiseTests() {
     }
@@ -48,46 +46,14 @@ public final class PromiseTests {
         Check.end("PromiseTests");
     }
 
-    private static void fresh(String city) {
-        x = new HalfAccuser();
-        Check.that("the city is taken: " + city, Calls.city(x, city) >= 0 && x.status() == 0);
-    }
-
-    /** One call that answers, with STATUS 0. */
-    private static void due(int promise, long answer, String name, long... a) {
-        Check.promise(promise);
-        String call = name + java.util.Arrays.toString(a);
-        Check.same(call, Calls.call(x, name, a), answer);
-        if (!Plain.SILENT.contains(name)) {
-            Check.same(call + ": status", x.status(), 0);
-        }
-    }
-
-    /** One call that is refused, with this STATUS. */
-    private static void refused(int promise, int status, String name, long... a) {
-        Check.promise(promise);
-        String call = name + java.util.Arrays.toString(a);
-        long top = x.top();
-        long bottom = x.bottom();
-        Check.same(call, Calls.call(x, name, a), Plain.BOOLEANS.contains(name) ? 0 : -1);
-        Check.same(call + ": status", x.status(), status);
-        Check.that(call + " keeps the fraction", top == x.top() && bottom == x.bottom());
-    }
-
-    private static void fraction(int promise, long top, long bottom, String name, long... a) {
-        due(promise, 1, name, a);
-        Check.same(name + java.util.Arrays.toString(a) + ": top", x.top(), top);
-        Check.same(name + java.util.Arrays.toString(a) + ": bottom", x.bottom(), bottom);
-    }
-
     private static void newObject() {
-        x = new HalfAccuser();
+        fresh();
         Check.promise(1);
-        Check.same("status", x.status(), 0);
-        Check.same("top", x.top(), 0);
-        Check.same("bottom", x.bottom(), 1);
-        Check.same("fault", x.fault(0), -1);
-        Check.same("fault's place", x.fault(1), -1);
+        Check.same("status", story.x.status(), 0);
+        Check.same("top", story.x.top(), 0);
+        Check.same("bottom", story.x.bottom(), 1);
+        Check.same("fault", story.x.fault(0), -1);
+        Check.same("fault's place", story.x.fault(1), -1);
         long[] facts = {0, 0, 5, 1, 100, 8, 0, 0, 0, 0, 0};
         for (int i = 0; i < facts.length; i++) {
             due(1, facts[i], "many", i);
@@ -105,15 +71,15 @@ public final class PromiseTests {
     private static void statusAndFractions() {
         fresh(CITY);
         refused(2, 2, "person", 4, 0);
-        Calls.feed(x, " ");
-        x.top();
-        x.bottom();
-        x.fault(0);
+        story.feed(" ");
+        story.x.top();
+        story.x.bottom();
+        story.x.fault(0);
         Check.promise(2);
-        Check.same("status behind feed, top, bottom, fault", x.status(), 2);
-        Check.same("status behind status", x.status(), 2);
+        Check.same("status behind feed, top, bottom, fault", story.x.status(), 2);
+        Check.same("status behind status", story.x.status(), 2);
         due(2, 0, "quiet");
-        Check.same("status behind quiet", x.status(), 0);
+        Check.same("status behind quiet", story.x.status(), 0);
         fraction(3, -35, 128, "gain", DOT, 1);
         fraction(4, -35, 128, "gain", DOT, 1);
         refused(3, 9, "gain", BOB, 0);
@@ -125,7 +91,7 @@ public final class PromiseTests {
     }
 
     private static void trays() {
-        x = new HalfAccuser();
+        fresh();
         refused(5, 1, "tray", -1, 0, 5);
         refused(5, 1, "tray", 4, 0, 61);
         refused(5, 1, "tray", 0, -1, -1);
@@ -177,7 +143,7 @@ public final class PromiseTests {
     }
 
     private static void pouring() {
-        x = new HalfAccuser();
+        fresh();
         due(8, 1, "tray", 0, 1, 5);
         due(8, 1, "tray", 1, 1, 4);
         due(8, 1, "tray", 2, 2, 4);
@@ -213,13 +179,13 @@ public final class PromiseTests {
     }
 
     private static void tape() {
-        x = new HalfAccuser();
+        fresh();
         for (int i = 1; i <= 45; i++) {
             due(9, 20 * i, "feed", 0x20202020, 0x20202020, 0x20202020, 0x20202020, 0x20202020);
         }
-        x.many(-1);
+        story.x.many(-1);
         due(9, -1, "feed", 0, 0, 0, 0, 0);
-        Check.same("status behind feed", x.status(), 5);
+        Check.same("status behind feed", story.x.status(), 5);
         refused(10, 5, "city", 901);
         refused(10, 5, "city", -1);
         refused(10, 5, "city", Integer.MIN_VALUE);
@@ -240,8 +206,8 @@ public final class PromiseTests {
         due(12, -1, "fault", 1);
         due(12, -1, "fault", 2);
         due(12, -1, "fault", -1);
-        Calls.city(x, "jurors 7;person ann;deed lie of ann fine 1 odds 0;");
-        Calls.feed(x, "jurors 9;?");
+        story.city("jurors 7;person ann;deed lie of ann fine 1 odds 0;");
+        story.feed("jurors 9;?");
         refused(10, 10, "city", 10);
         due(12, 1, "fault", 0);
         due(12, 9, "fault", 1);
@@ -249,40 +215,27 @@ public final class PromiseTests {
         due(12, 1, "fault", 0);
         due(10, 7, "many", 2);
         due(10, 1, "many", 1);
-        due(10, 1, "city", Calls.feed(x, "person bob;\ndeed lie of bob fine 1 odds 0;"));
+        due(10, 1, "city", story.feed("person bob;\ndeed lie of bob fine 1 odds 0;"));
         due(10, 1, "deed", 0, 1);
         refused(11, 8, "live", 0);
     }
 
-    /** A CITY that must be refused; the old one stays. */
+    /** A CITY that must be refused; the old one stays, with all that became of it. */
     private static void noCity(String text, int kind, int place) {
-        due(10, 3, "many", 2);
-        refused(10, 10, "city", Calls.feed(x, text));
-        due(12, kind, "fault", 0);
-        Check.same(text, x.fault(0), kind);
-        due(12, place, "fault", 1);
-        Check.same(text + ": place", x.fault(1), place);
-        due(10, 3, "many", 2);
-        refused(10, 5, "city", 1);
+        fresh(CITY);
+        due(10, 1, "years", story.feed("earn ann 7;"));
+        due(10, 200, "charge", ANN, 2, 2);
+        faulty(10, "city", text, kind, place);
     }
 
     private static void isCity(String text, int deeds) {
-        HalfAccuser old = x;
-        x = new HalfAccuser();
-        due(10, deeds, "city", Calls.feed(x, text));
-        x = old;
-    }
-
-    private static String times(String text, int n) {
-        StringBuilder all = new StringBuilder();
-        for (int i = 0; i < n; i++) {
-            all.append(text.replace('#', (char) ('a' + i)));
-        }
-        return all.toString();
+        Story old = story;
+        fresh();
+        due(10, deeds, "city", story.feed(text));
+        story = old;
     }
 
     private static void cityFaults() {
-        fresh(CITY);
         noCity("Jurors 3;", 1, 0);
         noCity("jurors 3;\t", 1, 9);
         noCity("jurors \u00f33;", 1, 7);
@@ -346,24 +299,20 @@ public final class PromiseTests {
         isCity("jurors 1;fifth 0;penalty 0;share 0;person coin;person endx;person a;", 0);
     }
 
+    /** YEARS that must be refused; the old ones stay. */
     private static void noYears(String text, int kind, int place) {
-        refused(11, 10, "years", Calls.feed(x, text));
-        due(12, kind, "fault", 0);
-        Check.same(text, x.fault(0), kind);
-        due(12, place, "fault", 1);
-        Check.same(text + ": place", x.fault(1), place);
-        refused(11, 5, "years", 1);
+        fresh(CITY);
+        isYears("earn ann 7;", 1);
+        faulty(11, "years", text, kind, place);
     }
 
     private static void isYears(String text, int steps) {
-        due(11, steps, "years", Calls.feed(x, text));
+        due(11, steps, "years", story.feed(text));
         due(12, 0, "fault", 0);
         due(12, -1, "fault", 1);
     }
 
     private static void yearsFaults() {
-        fresh(CITY);
-        isYears("earn ann 7;", 1);
         noYears("Any;", 1, 0);
         noYears("any?", 1, 3);
         noYears("any", 2, 3);
@@ -398,19 +347,18 @@ public final class PromiseTests {
         noYears(times("loop 1;", 4), 7, 21);
         noYears("loop 1;when open lie;loop 1;when open lie;", 7, 28);
         noYears(times("any;", 27) + times("loop 1;", 4), 6, 108 + 21);
-        due(11, 1, "live", 0);
-        due(11, 57, "person", ANN, 0);
+        fresh(CITY);
         isYears(times("any;", 30), 30);
         isYears(times("any;", 27) + times("loop 1;", 3) + times("end;", 3), 30);
         isYears("loop 99;end;when coins ann<0;end;when coins ann=9999;end;when coins ann > 5;end;", 4);
         isYears(times("loop 1;end;", 26) + "earn ann 8;", 27);
         due(11, 27, "live", 0);
-        due(11, 65, "person", ANN, 0);
+        due(11, 58, "person", ANN, 0);
         isYears("drop ann lie for 0;drop ann lie for 9999;earn ann 1;earn ann 999;", 4);
-        Calls.city(x, CITY);
+        story.city(CITY);
         refused(11, 8, "live", 0);
         due(11, 4, "commit", ANN, 5, 5);
-        noYears("charge bob a;", 3, 11);
+        faulty(11, "years", "charge bob a;", 3, 11);
     }
 
     private static void seeing() {
@@ -472,7 +420,7 @@ public final class PromiseTests {
         due(16, 1, "tray", 1, 2, 4);
         due(16, 4, "copyCoins", 1);
         due(16, -270, "read", 1, 2);
-        x = new HalfAccuser();
+        fresh();
         due(16, 1, "tray", 0, 0, 0);
         due(16, 0, "copyCoins", 0);
     }
@@ -1013,7 +961,7 @@ public final class PromiseTests {
 
     private static void lives(int promise, String years, int seed, int steps, int... facts) {
         due(promise, 0, "years", 0);
-        Check.that("the years are taken: " + years, Calls.years(x, years) >= 0 && x.status() == 0);
+        Check.that("the years are taken: " + years, story.years(years) >= 0 && story.x.status() == 0);
         due(promise, steps, "live", seed);
         for (int i = 0; i < facts.length; i++) {
             due(52, facts[i], "lived", i);
@@ -1053,7 +1001,7 @@ public final class PromiseTests {
         due(51, 148, "person", ANN, 0);
         // From seed 0 on the first draws by 2 are 0 (ANN) and 0 (the lie, that she dropped).
         lives(51, "any;", 0, 1, 1, 0, 0, 0, 0);
-        due(51, 0, "city", Calls.feed(x, "person ann;"));
+        due(51, 0, "city", story.feed("person ann;"));
         due(52, 1, "lived", 0);
         lives(51, "any;any;", 0, 2, 2, 0, 0, 0, 0);
         due(51, 0, "city", 0);
@@ -1082,7 +1030,7 @@ public final class PromiseTests {
         fresh("jurors 1;fifth 1;penalty 40;person ann;person bob;deed lie of bob fine 100 odds 15;");
         refused(53, 8, "mean", 0, 1);
         refused(53, 5, "mean", -1, 1);
-        due(53, 1, "years", Calls.feed(x, "charge ann lie;"));
+        due(53, 1, "years", story.feed("charge ann lie;"));
         refused(53, 5, "mean", -1, 1);
         refused(53, 5, "mean", 10000, 1);
         refused(53, 5, "mean", 0, 0);
@@ -1109,20 +1057,20 @@ public final class PromiseTests {
     private static void marks() {
         fresh(CITY);
         refused(55, 8, "back");
-        due(54, 2, "years", Calls.feed(x, "earn ann 1;earn bob 1;"));
+        due(54, 2, "years", story.feed("earn ann 1;earn bob 1;"));
         due(54, 1, "mark");
         due(54, 53, "earn", ANN, 3);
         due(54, 2, "mark");
         changeAll();
         due(54, 3, "mark");
         refused(54, 7, "mark");
-        due(55, 1, "city", Calls.feed(x, "person eve;deed own of eve fine 1 odds 1;"));
+        due(55, 1, "city", story.feed("person eve;deed own of eve fine 1 odds 1;"));
         refused(54, 7, "mark");
-        noYears("earn ann 1;", 3, 5);
+        refused(11, 10, "years", story.feed("earn ann 1;"));
         fraction(55, 0, 1, "plan", 0, 0);
-        Calls.feed(x, "earn ");
+        story.feed("earn ");
         due(55, 2, "back");
-        Check.same("the fault stays", x.fault(0), 3);
+        Check.same("the fault stays", story.x.fault(0), 3);
         due(55, 9, "read", 0, 0);
         due(55, 40, "feed", 0, 0, 0, 0, 0);
         due(55, 5, "many", 1);
@@ -1154,7 +1102,7 @@ public final class PromiseTests {
         due(54, 1, "rule", 3, 9);
         due(54, 1, "tray", 0, 0, 1);
         due(54, 1, "write", 0, 0, 9);
-        due(54, 1, "years", Calls.feed(x, "any;"));
+        due(54, 1, "years", story.feed("any;"));
     }
 
     private static void seenBack(int coinsOfAnn) {
