@@ -489,7 +489,7 @@ public final class HalfAccuser {
         }
         hopes.see();
         games.setGame(person, other, turns);
-        return tell(games.play(0, 0), hopes.whole());
+        return tell(games.outcome(), hopes.whole());
     }
 
     public int moveOf(int person, int other, int turns) {
@@ -1992,16 +1992,20 @@ public final class HalfAccuser {
             }
         }
 
+        long outcome() {
+            return play(this, 0, 0);
+        }
+
         // The turns, three at most, keep the depth.
-        long play(int turn, int charged) {
-            if (turn >= turns || turn >= MOST_TURNS) {
+        private static long play(Games game, int turn, int charged) {
+            if (turn >= game.turns || turn >= MOST_TURNS) {
                 return 0;
             }
             boolean firsts = turn % 2 == 0;
-            long best = play(turn + 1, charged);
-            for (int d = 0; d < city.deeds; d++) {
-                if (at(movers, d) == (firsts ? FIRST : SECOND) && !isIn(charged, d)) {
-                    long much = at(worths, d) + play(turn + 1, charged | 1 << d);
+            long best = play(game, turn + 1, charged);
+            for (int d = 0; d < game.city.deeds; d++) {
+                if (at(game.movers, d) == (firsts ? FIRST : SECOND) && !isIn(charged, d)) {
+                    long much = at(game.worths, d) + play(game, turn + 1, charged | 1 << d);
                     best = firsts ? Math.max(best, much) : Math.min(best, much);
                 }
             }
@@ -2009,9 +2013,9 @@ public final class HalfAccuser {
         }
 
         int firstMove() {
-            long best = play(0, 0);
+            long best = outcome();
             for (int d = 0; d < city.deeds; d++) {
-                if (at(movers, d) == FIRST && at(worths, d) + play(1, 1 << d) == best) {
+                if (at(movers, d) == FIRST && at(worths, d) + play(this, 1, 1 << d) == best) {
                     return d;
                 }
             }
@@ -2134,8 +2138,8 @@ public final class HalfAccuser {
                 return 0;
             }
             int product = 1;
-            for (int i = 0; i < many; i++) {
-                product = product * (of - i) / (i + 1);
+            for (int k = 1; k <= many; k++) {
+                product = product * (of - k + 1) / k;
             }
             return product;
         }

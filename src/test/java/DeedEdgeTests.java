@@ -160,6 +160,10 @@ public final class DeedEdgeTests extends Trial {
         }
         due(14, 1, "person", ANN, 3);
         due(14, 0, "person", ANN, 2);
+        due(21, 1, "reopen", 0);
+        due(23, 99, "earn", ANN, 194);
+        due(17, -1, "charge", ANN, 0, 0);
+        due(14, -1, "person", ANN, 0);
     }
 
     private static void canNot(int person, int deed) {
@@ -564,6 +568,8 @@ public final class DeedEdgeTests extends Trial {
         }
         for (int what : new int[] {-1, 4, 5, LEAST, MOST}) {
             refused(24, 5, "rule", what, 1);
+            refused(24, 5, "rule", what, 0);
+            refused(24, 5, "rule", what, -1);
         }
         // From now on: what was HEARD stays.
         fresh(TWO);

@@ -29,6 +29,7 @@ public final class LanguageTests {
                 StandardCharsets.UTF_8);
         ruledOut(source);
         methodLengths(source);
+        recursion(source);
         face();
         insides();
         Check.end("LanguageTests");
@@ -67,6 +68,21 @@ public final class LanguageTests {
                 start = -1;
             }
         }
+    }
+
+    // Rule 8: a method that calls itself is private and static, and its depth is looked at.
+    private static void recursion(String source) {
+        Matcher m = Pattern.compile("(?m)^( {4}| {8})(\\S[\\w\\[\\] ]*?)(\\w+)\\([^;{]*\\) \\{$").matcher(source);
+        int found = 0;
+        while (m.find()) {
+            String body = source.substring(m.end(), source.indexOf("\n" + m.group(1) + "}", m.end() - 1));
+            if (Pattern.compile("(?<![.\\w])" + m.group(3) + "\\(").matcher(body).find()) {
+                found++;
+                Check.that(m.group(3) + " calls itself", m.group(2).startsWith("private static "));
+                Check.that(m.group(3) + " has no guard", body.contains(">= MOST_TURNS"));
+            }
+        }
+        Check.that(found + " methods that call themselves", found == 1);
     }
 
     private static void face() {

@@ -21,6 +21,7 @@ public final class TextEdgeTests extends Trial {
         asLongAsTheyGo();
         cutOff();
         tokensThatCannotStand();
+        otherKindsOfTokens();
         names();
         namesTaken();
         namesToldAhead();
@@ -36,6 +37,8 @@ public final class TextEdgeTests extends Trial {
         ends();
         whatFaultTells();
         takenCity();
+        cityBehindMean();
+        fewerThanAhead();
         takenYears();
         Check.end("TextEdgeTests");
     }
@@ -308,6 +311,36 @@ public final class TextEdgeTests extends Trial {
         noCity("deed l;", 2, 6);
     }
 
+    private static void otherKinds(String name, String text, String[] reserved) {
+        String[] tokens = text.split(" ");
+        int place = 0;
+        for (int i = 0; i < tokens.length; i++) {
+            char first = tokens[i].charAt(0);
+            boolean isName = first >= 'a' && first <= 'z' && !java.util.Arrays.asList(reserved).contains(tokens[i]);
+            for (int v = 0; v <= 62 && !Character.isDigit(first); v++) {
+                cannotStand(name, with(tokens, i, "" + v), place);
+            }
+            for (char c = 'a'; c <= 'z' && !isName; c++) {
+                cannotStand(name, with(tokens, i, "" + c), place);
+            }
+            place += tokens[i].length() + 1;
+        }
+    }
+
+    private static void cannotStand(String name, String text, int place) {
+        if (name.equals("city")) {
+            noCity(text, 2, place);
+        } else {
+            noYears(text, 2, place);
+        }
+    }
+
+    // A NUMBER where a WORD or a SIGN must stand, a NAME where a NUMBER, a SIGN or another WORD must: 2
+    private static void otherKindsOfTokens() {
+        otherKinds("city", CITY, RESERVED);
+        otherKinds("years", YEARS, RESERVED);
+    }
+
     // "NAME: a WORD of 1 to 8 letters that is none of .."; "a WORD of 9 letters and more where a NAME must stand": 2
     private static void names() {
         for (int length = 1; length <= 8; length++) {
@@ -439,6 +472,11 @@ public final class TextEdgeTests extends Trial {
             noCity(once + rule + "?", 5, once.length());
             noCity(once + "person a;" + rule + " 9999;", 5, once.length() + 9);
             noCity(once + once + once, 5, once.length());
+            for (String other : new String[] {"jurors 2;", "fifth 2;", "penalty 2;", "share 2;"}) {
+                if (!other.startsWith(rule)) {
+                    noCity(once + other + once, 5, once.length() + other.length());
+                }
+            }
         }
         isCity("share 1;penalty 1;fifth 1;jurors 1;", 0);
         // Told in the text ahead, or in a text that was refused, is not told already.
@@ -456,6 +494,9 @@ public final class TextEdgeTests extends Trial {
         noCity(eight + "person", 6, 72);
         noCity(eight + "person?", 6, 72);
         noCity(eight + "jurors 3;person z;", 6, 81);
+        for (String no : new String[] {"z", ";", "7", "<", "loop", "abcdefghi", "persons"}) {
+            noCity(eight + no, 2, 72);
+        }
         String ten = times("deed l# of a fine 1 odds 0;", 10);
         isCity(eight + ten, 10);
         due(10, 10, "many", 1);
@@ -547,7 +588,10 @@ public final class TextEdgeTests extends Trial {
             noYears(times("any;", 30) + more, 6, 120);
         }
         noYears(times("any;", 30) + "?", 1, 120);
-        noYears(times("any;", 30) + "end;", 2, 120);
+        for (String no : new String[] {"end;", "a", ";", "7", "<", "person", "abcdefghi", "anys"}) {
+            noYears(times("any;", 30) + no, 2, 120);
+        }
+        noYears(times("any;", 29) + "loop 1;", 2, 123);
         isYears(times("loop 1;", 1) + times("any;", 29) + "end;", 30);
         noYears(times("loop 1;", 1) + times("any;", 30) + "end;", 6, 7 + 116);
         isYears(times("loop 1;end;", 25) + "any;any;any;any;any;", 30);
@@ -660,6 +704,73 @@ public final class TextEdgeTests extends Trial {
         due(55, 0, "back");
         due(55, -1, "person", 1, 0);
         due(55, 1, "live", 0);
+    }
+
+    private static void asNew(int people, int deeds) {
+        long[] facts = {people, deeds, 5, 1, 100, 8, 0, (1 << deeds) - 1, 0, 0, 0};
+        for (int what = 0; what < 11; what++) {
+            due(10, facts[what], "many", what);
+        }
+        for (int p = 0; p < people; p++) {
+            long[] person = {100, 0, 0, 0, story.x.person(p, 4), 0};
+            for (int what = 0; what < 6; what++) {
+                due(10, person[what], "person", p, what);
+            }
+        }
+        for (int d = 0; d < deeds; d++) {
+            due(10, 0, "deed", d, 3);
+        }
+    }
+
+    // What only a mean's YEARS would have made is not in the next CITY.
+    private static void cityBehindMean() {
+        String city = "person a;person b;person c;deed l of b fine 50 odds 16;deed m of c fine 600 odds 16;"
+                + "deed n of a fine 1 odds 0;deed o of a fine 1 odds 0;";
+        fresh(city);
+        due(11, 5, "years", story.feed("drop b o for 5;charge a l;charge a m;charge b n;earn a 7;"));
+        due(53, 1, "mean", 0, 1);
+        due(10, 4, "city", story.feed(city));
+        asNew(3, 4);
+        due(11, 5, "years", story.feed("drop b o for 5;charge a l;charge a m;charge b n;earn a 7;"));
+        due(53, 1, "mean", 0, 1);
+        due(10, 1, "city", story.feed("person a;person b;deed l of b fine 1 odds 0;"));
+        asNew(2, 1);
+        due(20, 1, "commit", 0, 1, 1);
+        due(20, 0, "deed", 1, 3);
+        due(25, 1, "can", 1, 1);
+    }
+
+    // PEOPLE and DEEDS of a larger CITY ahead are in no answer.
+    private static void fewerThanAhead() {
+        fresh("jurors 1;fifth 0;penalty 0;share 16;person a;person b;person c;person d;deed l of b fine 9 odds 16;"
+                + "deed m of b fine 9 odds 16;deed n of b fine 9 odds 16;deed o of a fine 9 odds 16;");
+        due(38, 0, "quiet");
+        fraction(33, 27, 1, "plan", 0, 10);
+        fraction(44, 36 - 18, 1, "game", 0, 1, 3);
+        due(10, 1, "city", story.feed("jurors 1;fifth 0;penalty 0;share 16;person a;person b;person c;"
+                + "deed l of b fine 5 odds 8;"));
+        fraction(33, 5, 2, "plan", 0, 10);
+        fraction(44, 5, 1, "game", 0, 1, 3);
+        due(45, 0, "moveOf", 0, 1, 3);
+        due(10, 1, "city", story.feed("jurors 1;fifth 0;penalty 0;share 16;person a;person b;deed l of b fine 5 odds 8;"));
+        due(34, 0, "accuser", 0);
+        due(35, 0, "dreaded", 1);
+        fraction(36, 5, 2, "dread", 1);
+        due(19, 100, "drop", 0, 0, 0);
+        refused(34, 8, "accuser", 0);
+        refused(37, 8, "friend", 0);
+        refused(40, 8, "leastShare", 0);
+        refused(41, 8, "leastFine", 0);
+        refused(42, 8, "mostPenalty", 0);
+        refused(35, 8, "dreaded", 1);
+        fraction(36, 0, 1, "dread", 1);
+        due(38, 1, "quiet");
+        due(43, 0, "gladBy", 16, 0);
+        refused(32, 8, "best", 0);
+        fraction(44, 0, 1, "game", 0, 1, 3);
+        refused(45, 8, "moveOf", 0, 1, 3);
+        due(48, 2, "gained", 0, 0);
+        fraction(47, 0, 1, "clubPart", 3);
     }
 
     // YEARS that are taken are there in place of those ahead; the CITY stays.

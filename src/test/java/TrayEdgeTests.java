@@ -298,9 +298,23 @@ public final class TrayEdgeTests extends Trial {
         due(16, -1, "earn", 0, -128);
         due(16, 3, "copyCoins", 1);
         row(1, -1, -128, 15);
+        // Nothing is written beside the TRAY.
+        for (int tray = 0; tray <= 3; tray++) {
+            due(5, 1, "tray", tray, 3, 60);
+            due(6, 1, "write", tray, 0, 70 + tray);
+            due(6, 1, "write", tray, 59, 90 + tray);
+        }
+        due(16, 3, "copyCoins", 1);
+        due(7, 70, "read", 0, 0);
+        due(7, 90, "read", 0, 59);
+        row(1, -1, 128, 9999, 0);
+        due(7, 91, "read", 1, 59);
+        due(7, 72, "read", 2, 0);
+        due(16, 3, "copyCoins", 3);
+        due(7, 92, "read", 2, 59);
         due(16, 0, "city", 0);
         due(16, 0, "copyCoins", 0);
         due(16, 0, "copyCoins", 1);
-        row(1, -1, -128, 15);
+        row(1, -1, 128, 9999);
     }
 }

@@ -220,6 +220,11 @@ public final class YearEdgeTests extends Trial {
         fresh("person ann;deed lie of ann fine 1 odds 1;");
         years("any;any;any;");
         lives(0, 3, 3, 0, 0, 0, 0);
+        // One DEED is drawn, too: of seed 0 ANN, 0; then 1, 1, 9 are left for the JURORS.
+        fresh("jurors 3;person ann;person bob;deed lie of bob fine 1 odds 2;");
+        years("any;");
+        lives(0, 1, 0, 1, 1, 0, 0);
+        due(15, 2, "deed", 0, 5);
     }
 
     // "when TEST: open NAME, or ruined NAME"
@@ -298,6 +303,12 @@ public final class YearEdgeTests extends Trial {
         years("loop 9;earn ann 1;when open lie;stop;end;end;any;");
         lives(0, 4, 0, 0, 0, 0, 0);
         due(51, 102, "person", ANN, 0);
+        // The rounds that a stop left are none of what comes later.
+        years("when open lie;earn ann 1;end;");
+        lives(0, 2, 0, 0, 0, 0, 0);
+        years("loop 2;earn ann 1;end;");
+        lives(0, 3, 0, 0, 0, 0, 0);
+        due(23, 102, "earn", ANN, -3);
         years("when ruined ann;stop;end;earn ann 1;stop;");
         lives(0, 3, 0, 0, 0, 0, 0);
         due(51, 103, "person", ANN, 0);
@@ -491,6 +502,10 @@ public final class YearEdgeTests extends Trial {
             case 6:
                 due(17, 60, "charge", ANN, 1, 0);
                 break;
+            case 14:
+                due(21, 1, "reopen", 2);
+                due(17, 15, "charge", BOB, 2, 4);
+                break;
             case 11:
                 due(11, 1, "years", story.feed("any;"));
                 break;
@@ -508,7 +523,7 @@ public final class YearEdgeTests extends Trial {
 
     // "the CITY with all that became of it, the YEARS are kept as they are; all is taken back"
     private static void marksKeepAll() {
-        for (int what = 0; what <= 13; what++) {
+        for (int what = 0; what <= 14; what++) {
             livedIn();
             if (what == 0 || what == 6) {
                 due(21, 1, "reopen", 1);
