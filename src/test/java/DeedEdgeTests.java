@@ -75,7 +75,7 @@ public final class DeedEdgeTests extends Trial {
             // The last ones there are.
             if (parts[1].equals("p")) {
                 story.call(parts[0], lastOnes(parts));
-                Check.that(parts[0] + " of the last PERSON, DEED", story.x.status() != 2);
+                Check.that(parts[0] + " of the last PERSON, DEED", story.status() != 2);
             }
         }
     }
@@ -276,7 +276,7 @@ public final class DeedEdgeTests extends Trial {
     }
 
     private static void earnTo(int person, int coins) {
-        int have = story.x.person(person, 0);
+        int have = (int) story.call("person", person, 0);
         while (have != coins) {
             int step = Math.max(-9999, Math.min(9999, coins - have));
             due(23, have + step, "earn", person, step);
@@ -333,9 +333,9 @@ public final class DeedEdgeTests extends Trial {
                 + "deed a of bob fine 1 odds 0;");
         for (int i = 1; i <= 100; i++) {
             due(17, 9999, "charge", ANN, 0, 1);
-            due(13, 999 * i, "many", 6);
-            due(21, 1, "reopen", 0);
+            Check.same("reopen", story.call("reopen", 0), 1);
         }
+        due(13, 99900, "many", 6);
         due(17, 9901, "charge", ANN, 0, 0);
         due(13, 99998, "many", 6);
         due(17, 9901, "charge", ANN, 1, 1);
@@ -369,6 +369,17 @@ public final class DeedEdgeTests extends Trial {
         due(15, 1, "deed", 1, 5);
         due(15, ANN, "deed", 1, 4);
         due(13, 2, "many", 10);
+        // By the same seed the same draws, whatever was drawn ahead; of as many JURORS as there can be.
+        fresh("jurors 9;person ann;person bob;deed lie of bob fine 1 odds 5;");
+        for (int time = 0; time < 3; time++) {
+            // 14, 2, 1, 1, 9, 11, 4, 2, 4 by 0; 3, 2, 8, 7, 2, 7, 15, 4, 1 by 1,234
+            due(18, 6, "hear", ANN, 0, 0);
+            due(21, 1, "reopen", 0);
+            due(18, 5, "hear", ANN, 0, 1234);
+            due(21, 1, "reopen", 0);
+        }
+        due(18, 6, "hear", ANN, 0, 0);
+        due(15, 1, "deed", 0, 3);
     }
 
     // "each of the JURORS votes for it, if a draw by 16 is below CHANCE by 16"

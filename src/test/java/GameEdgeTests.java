@@ -206,6 +206,10 @@ public final class GameEdgeTests extends Trial {
         due(46, 4, "club", 31);
         due(46, 2, "club", 3);
         due(46, 16, "club", 16 + 8 + 2 + 1);
+        // One and two sixteenths: the even part is three by 32.
+        fresh(SURE + "deed a of ann fine 1 odds 1;deed b of bob fine 2 odds 1;");
+        fraction(47, 3, 32, "clubPart", 3);
+        due(46, 2, "club", 3);
         // Eight of them, each more than the one ahead.
         fresh("jurors 1;fifth 0;share 16;" + times("person p#;", 8) + "deed a of pa fine 1 odds 16;deed b of pb fine 2 odds 16;"
                 + "deed c of pc fine 4 odds 16;deed d of pd fine 8 odds 16;deed e of pe fine 16 odds 16;"

@@ -49,11 +49,11 @@ public final class PromiseTests extends Trial {
     private static void newObject() {
         fresh();
         Check.promise(1);
-        Check.same("status", story.x.status(), 0);
-        Check.same("top", story.x.top(), 0);
-        Check.same("bottom", story.x.bottom(), 1);
-        Check.same("fault", story.x.fault(0), -1);
-        Check.same("fault's place", story.x.fault(1), -1);
+        Check.same("status", story.status(), 0);
+        Check.same("top", story.top(), 0);
+        Check.same("bottom", story.bottom(), 1);
+        Check.same("fault", story.fault(0), -1);
+        Check.same("fault's place", story.fault(1), -1);
         long[] facts = {0, 0, 5, 1, 100, 8, 0, 0, 0, 0, 0};
         for (int i = 0; i < facts.length; i++) {
             due(1, facts[i], "many", i);
@@ -72,14 +72,14 @@ public final class PromiseTests extends Trial {
         fresh(CITY);
         refused(2, 2, "person", 4, 0);
         story.feed(" ");
-        story.x.top();
-        story.x.bottom();
-        story.x.fault(0);
+        story.top();
+        story.bottom();
+        story.fault(0);
         Check.promise(2);
-        Check.same("status behind feed, top, bottom, fault", story.x.status(), 2);
-        Check.same("status behind status", story.x.status(), 2);
+        Check.same("status behind feed, top, bottom, fault", story.status(), 2);
+        Check.same("status behind status", story.status(), 2);
         due(2, 0, "quiet");
-        Check.same("status behind quiet", story.x.status(), 0);
+        Check.same("status behind quiet", story.status(), 0);
         fraction(3, -35, 128, "gain", DOT, 1);
         fraction(4, -35, 128, "gain", DOT, 1);
         refused(3, 9, "gain", BOB, 0);
@@ -183,9 +183,9 @@ public final class PromiseTests extends Trial {
         for (int i = 1; i <= 45; i++) {
             due(9, 20 * i, "feed", 0x20202020, 0x20202020, 0x20202020, 0x20202020, 0x20202020);
         }
-        story.x.many(-1);
+        story.call("many", -1);
         due(9, -1, "feed", 0, 0, 0, 0, 0);
-        Check.same("status behind feed", story.x.status(), 5);
+        Check.same("status behind feed", story.status(), 5);
         refused(10, 5, "city", 901);
         refused(10, 5, "city", -1);
         refused(10, 5, "city", Integer.MIN_VALUE);
@@ -961,7 +961,7 @@ public final class PromiseTests extends Trial {
 
     private static void lives(int promise, String years, int seed, int steps, int... facts) {
         due(promise, 0, "years", 0);
-        Check.that("the years are taken: " + years, story.years(years) >= 0 && story.x.status() == 0);
+        Check.that("the years are taken: " + years, story.years(years) >= 0 && story.status() == 0);
         due(promise, steps, "live", seed);
         for (int i = 0; i < facts.length; i++) {
             due(52, facts[i], "lived", i);
@@ -1070,7 +1070,7 @@ public final class PromiseTests extends Trial {
         fraction(55, 0, 1, "plan", 0, 0);
         story.feed("earn ");
         due(55, 2, "back");
-        Check.same("the fault stays", story.x.fault(0), 3);
+        Check.same("the fault stays", story.fault(0), 3);
         due(55, 9, "read", 0, 0);
         due(55, 40, "feed", 0, 0, 0, 0, 0);
         due(55, 5, "many", 1);

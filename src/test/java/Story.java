@@ -5,15 +5,48 @@ import java.util.List;
 final class Story {
     private static final int MOST_CALLS = 512;
     private static final int MOST_BYTES = 900;
+    private static final int MOST_MARKS = 3;
     private static final long BLANKS = 0x20202020;
     private final List<String> names = new ArrayList<>();
     private final List<long[]> arguments = new ArrayList<>();
-    final HalfAccuser x = new HalfAccuser();
+    private final HalfAccuser x = new HalfAccuser();
+    private int made;
 
     long call(String name, long... a) {
         names.add(name);
         arguments.add(a);
+        count();
         return Calls.call(x, name, a);
+    }
+
+    // What calls behind the 512th answer is free.
+    private void count() {
+        made++;
+        if (made == MOST_CALLS + 1) {
+            Check.that("more than 512 calls of one object", false);
+        }
+    }
+
+    // Calls that change nothing: no other object needs them to live alike.
+
+    int status() {
+        count();
+        return x.status();
+    }
+
+    long top() {
+        count();
+        return x.top();
+    }
+
+    long bottom() {
+        count();
+        return x.bottom();
+    }
+
+    int fault(int what) {
+        count();
+        return x.fault(what);
     }
 
     int feed(String text) {
@@ -85,10 +118,13 @@ final class Story {
 
     private final List<String> seen = new ArrayList<>();
 
-    private void ask(String name, long... a) {
+    // Its STATUS, where the answer does not tell that it is 0.
+    private int ask(String name, long... a) {
         long answer = call(name, a);
-        int status = Plain.SILENT.contains(name) ? 0 : x.status();
+        boolean tells = answer != -1 && name.equals("read") || Plain.SILENT.contains(name);
+        int status = tells ? 0 : status();
         seen.add(name + java.util.Arrays.toString(a) + " " + answer + " (" + status + ")");
+        return status;
     }
 
     /** All that can be asked of an object; it lives on by that, and is of no use behind it. */
@@ -104,14 +140,14 @@ final class Story {
         }
         seeCity(true);
         seeTrays();
-        for (int taken = 4; taken > 0 && x.status() != 8; taken--) {
+        int taken = 0;
+        do {
             seeYears();
             seeCity(false);
-            ask("back");
-        }
+            taken++;
+        } while (taken <= MOST_MARKS && ask("back") == 0);
         seeTape();
         seeNames();
-        Check.that("more than 512 calls: " + names.size(), names.size() <= MOST_CALLS);
         return seen;
     }
 
@@ -119,8 +155,8 @@ final class Story {
         for (int what = 0; what < 11; what++) {
             ask("many", what);
         }
-        int people = x.many(0);
-        int deeds = x.many(1);
+        int people = (int) call("many", 0);
+        int deeds = (int) call("many", 1);
         for (int p = 0; p < people; p++) {
             for (int what = 0; what < (whole ? 6 : 1); what++) {
                 ask("person", p, what);
@@ -136,8 +172,8 @@ final class Story {
     private void seeTrays() {
         for (int tray = 0; tray < 4; tray++) {
             int i = 0;
-            for (; i < 60 && (i == 0 || x.status() == 0); i++) {
-                ask("read", tray, i);
+            while (i < 60 && ask("read", tray, i) == 0) {
+                i++;
             }
             ask("write", tray, 0, 0x4040404040404040L);
             ask("read", tray, 0);

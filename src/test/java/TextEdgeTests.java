@@ -77,14 +77,14 @@ public final class TextEdgeTests extends Trial {
         due(9, 900, "feed", blanks, blanks, blanks, blanks, 0x2020203f);
         due(9, -1, "feed", 0, 0, 0, 0, 0);
         due(9, -1, "feed", blanks, blanks, blanks, blanks, blanks);
-        Check.same("status behind feed", story.x.status(), 0);
+        Check.same("status behind feed", story.status(), 0);
         refused(9, 5, "many", 11);
         due(9, -1, "feed", 0, 0, 0, 0, 0);
-        Check.same("status behind feed", story.x.status(), 5);
+        Check.same("status behind feed", story.status(), 5);
         Check.same("city", story.call("city", 900), -1);
         due(9, 899, "fault", 1);
         due(9, 20, "feed", 0, 0, 0, 0, 0);
-        Check.same("status behind feed", story.x.status(), 10);
+        Check.same("status behind feed", story.status(), 10);
         // "the highest of each int first": the sign that is none stands at 0, 1, .. 19.
         for (int place = 0; place < 20; place++) {
             fresh();
@@ -235,8 +235,8 @@ public final class TextEdgeTests extends Trial {
         String due = prefixFault(text, n, mayEnd);
         story.feed(text);
         story.call(name, n);
-        int kind = story.x.fault(0);
-        String got = kind == 0 ? "" : kind + " at " + story.x.fault(1);
+        int kind = story.fault(0);
+        String got = kind == 0 ? "" : kind + " at " + story.fault(1);
         Check.that(name + " of " + text.substring(0, n) + ": " + got + ", due is " + due, got.equals(due));
     }
 
@@ -651,7 +651,7 @@ public final class TextEdgeTests extends Trial {
         faults(1, 3);
         refused(12, 10, "city", story.feed("jurors 10;"));
         faults(4, 7);
-        Check.same("status behind fault", story.x.status(), 10);
+        Check.same("status behind fault", story.status(), 10);
         due(12, 0, "years", 0);
         faults(0, -1);
         refused(12, 10, "years", story.feed("end;"));
@@ -660,10 +660,10 @@ public final class TextEdgeTests extends Trial {
         faults(0, -1);
         refused(12, 5, "years", 1);
         faults(0, -1);
-        Check.same("status behind fault", story.x.status(), 5);
+        Check.same("status behind fault", story.status(), 5);
         due(12, 0, "many", 0);
-        story.x.fault(7);
-        Check.same("status behind fault", story.x.status(), 0);
+        story.fault(7);
+        Check.same("status behind fault", story.status(), 0);
     }
 
     // "A CITY that is taken is there in place of that ahead; all DEEDS are OPEN .."
@@ -712,7 +712,7 @@ public final class TextEdgeTests extends Trial {
             due(10, facts[what], "many", what);
         }
         for (int p = 0; p < people; p++) {
-            long[] person = {100, 0, 0, 0, story.x.person(p, 4), 0};
+            long[] person = {100, 0, 0, 0, story.call("person", p, 4), 0};
             for (int what = 0; what < 6; what++) {
                 due(10, person[what], "person", p, what);
             }

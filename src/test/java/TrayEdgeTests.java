@@ -10,6 +10,7 @@ public final class TrayEdgeTests extends Trial {
         bits();
         lengths();
         allZeros();
+        besideIt();
         orderOfTray();
         places();
         noneAndMinusOne();
@@ -17,6 +18,7 @@ public final class TrayEdgeTests extends Trial {
         pourAsTheyWere();
         pourOrder();
         coinsFit();
+        coinsOnly();
         Check.end("TrayEdgeTests");
     }
 
@@ -121,14 +123,12 @@ public final class TrayEdgeTests extends Trial {
         }
     }
 
-    // "all 0", whatever stood there; the TRAYS beside it stay.
+    // "all 0", whatever stood there
     private static void allZeros() {
         fresh();
-        for (int tray = 0; tray <= 3; tray++) {
-            due(5, 1, "tray", tray, 3, 60);
-            for (int i = 0; i < 60; i += 59) {
-                due(6, 1, "write", tray, i, -5 - tray);
-            }
+        due(5, 1, "tray", 1, 3, 60);
+        for (int i = 0; i < 60; i++) {
+            due(6, 1, "write", 1, i, -5 - i);
         }
         due(5, 1, "tray", 1, 3, 1);
         due(7, 0, "read", 1, 0);
@@ -136,10 +136,23 @@ public final class TrayEdgeTests extends Trial {
         for (int i = 0; i < 60; i++) {
             due(5, 0, "read", 1, i);
         }
-        for (int tray = 0; tray <= 3; tray += 2) {
-            due(5, -5 - tray, "read", tray, 0);
-            due(5, -5 - tray, "read", tray, 59);
+    }
+
+    // The TRAYS beside it stay.
+    private static void besideIt() {
+        fresh();
+        for (int tray = 0; tray <= 3; tray++) {
+            due(5, 1, "tray", tray, 3, 60);
+            due(6, 1, "write", tray, 0, -5 - tray);
+            due(6, 1, "write", tray, 59, -15 - tray);
         }
+        due(5, 1, "tray", 1, 3, 60);
+        for (int tray = 0; tray <= 3; tray += tray == 0 ? 2 : 1) {
+            due(5, -5 - tray, "read", tray, 0);
+            due(5, -15 - tray, "read", tray, 59);
+        }
+        due(5, 0, "read", 1, 0);
+        due(5, 0, "read", 1, 59);
     }
 
     // "(1; 5; 6)": of an answer that two hold of, the first.
@@ -298,23 +311,27 @@ public final class TrayEdgeTests extends Trial {
         due(16, -1, "earn", 0, -128);
         due(16, 3, "copyCoins", 1);
         row(1, -1, -128, 15);
-        // Nothing is written beside the TRAY.
-        for (int tray = 0; tray <= 3; tray++) {
+        due(16, 0, "city", 0);
+        due(16, 0, "copyCoins", 0);
+        due(16, 0, "copyCoins", 1);
+        row(1, -1, -128, 15);
+    }
+
+    // Nothing is written beside the TRAY, nor behind the COINS in it.
+    private static void coinsOnly() {
+        fresh("person ann coins 0;person bob coins 128;person cid coins 9999;");
+        due(16, -1, "earn", 0, -1);
+        for (int tray = 0; tray <= 2; tray++) {
             due(5, 1, "tray", tray, 3, 60);
             due(6, 1, "write", tray, 0, 70 + tray);
+            due(6, 1, "write", tray, 3, 80 + tray);
             due(6, 1, "write", tray, 59, 90 + tray);
         }
         due(16, 3, "copyCoins", 1);
         due(7, 70, "read", 0, 0);
         due(7, 90, "read", 0, 59);
-        row(1, -1, 128, 9999, 0);
+        row(1, -1, 128, 9999, 81);
         due(7, 91, "read", 1, 59);
         due(7, 72, "read", 2, 0);
-        due(16, 3, "copyCoins", 3);
-        due(7, 92, "read", 2, 59);
-        due(16, 0, "city", 0);
-        due(16, 0, "copyCoins", 0);
-        due(16, 0, "copyCoins", 1);
-        row(1, -1, 128, 9999);
     }
 }

@@ -14,7 +14,7 @@ abstract class Trial {
 
     static void fresh(String city) {
         fresh();
-        Check.that("the city is taken: " + city, story.city(city) >= 0 && story.x.status() == 0);
+        Check.that("the city is taken: " + city, story.city(city) >= 0 && story.status() == 0);
     }
 
     static String shown(String name, long... a) {
@@ -36,7 +36,7 @@ abstract class Trial {
         }
         Check.same(shown(name, a), story.call(name, a), answer);
         if (!Plain.SILENT.contains(name)) {
-            Check.same(shown(name, a) + ": status", story.x.status(), 0);
+            Check.same(shown(name, a) + ": status", story.status(), 0);
         }
     }
 
@@ -46,20 +46,20 @@ abstract class Trial {
         String change = story.changeBy(status == 10, name, a);
         Check.that(shown(name, a) + " changes " + change, change.isEmpty());
         Check.same(shown(name, a), story.call(name, a), Plain.BOOLEANS.contains(name) ? 0 : -1);
-        Check.same(shown(name, a) + ": status", story.x.status(), status);
+        Check.same(shown(name, a) + ": status", story.status(), status);
     }
 
     static void fraction(int promise, long top, long bottom, String name, long... a) {
         due(promise, 1, name, a);
-        Check.same(shown(name, a) + ": top", story.x.top(), top);
-        Check.same(shown(name, a) + ": bottom", story.x.bottom(), bottom);
+        Check.same(shown(name, a) + ": top", story.top(), top);
+        Check.same(shown(name, a) + ": bottom", story.bottom(), bottom);
     }
 
     /** A text that must be refused with this FAULT; the tape is empty then, and all else as it was. */
     static void faulty(int promise, String name, String text, int kind, int place) {
         refused(promise, 10, name, story.feed(text));
-        Check.same(text + ": fault", story.x.fault(0), kind);
-        Check.same(text + ": place", story.x.fault(1), place);
+        Check.same(text + ": fault", story.fault(0), kind);
+        Check.same(text + ": place", story.fault(1), place);
         due(promise, 20, "feed", 0, 0, 0, 0, 0);
     }
 

@@ -16,12 +16,14 @@ public final class VoteEdgeTests extends Trial {
 
     public static void main(String[] args) {
         chances();
+        ofWhatCannotBeCharged();
         onesOwn();
         justSoMany();
         winning();
         owing();
         ruinedGainNothing();
         shareInTheMean();
+        whateverCoins();
         fractions();
         gladAboveZero();
         firstOfSeveral();
@@ -55,6 +57,27 @@ public final class VoteEdgeTests extends Trial {
             due(17, 0, "charge", ANN, 0, 0);
             due(26, c[3], "chance", ANN, 0);
         }
+    }
+
+    private static void votesAndWins() {
+        due(26, 8, "chance", ANN, 0);
+        fraction(27, 5, 32, "votes", ANN, 0, 1);
+        fraction(28, 1, 2, "wins", ANN, 0);
+        fraction(29, 1, 32, "owes", ANN, 0);
+    }
+
+    // "(Of charges that can't be made now, too, but by RUINED ones ..)": votes are told of these, too.
+    private static void ofWhatCannotBeCharged() {
+        fresh("share 8;" + TWO);
+        due(23, -1, "earn", ANN, -101);
+        votesAndWins();
+        refused(30, 9, "gain", ANN, 0);
+        refused(31, 9, "loss", ANN, 0);
+        due(23, 0, "earn", ANN, 1);
+        due(19, 0, "drop", ANN, 0, 0);
+        votesAndWins();
+        fraction(30, 175, 8, "gain", ANN, 0);
+        fraction(31, 50, 1, "loss", ANN, 0);
     }
 
     // "(2; 9: one's own)", "(2; 5; 9: one's own)"
@@ -180,6 +203,21 @@ public final class VoteEdgeTests extends Trial {
             due(24, 1, "rule", 1, 0);
             reduced(30, c[2], 2, "gain", ANN, 0);
         }
+    }
+
+    // "In the mean, by all votes": whatever COINS somebody has, may pay or may still get
+    private static void whateverCoins() {
+        fresh("jurors 1;penalty 10;person ann;person bob coins 0;deed lie of bob fine 100 odds 8;");
+        for (int i = 0; i < 10; i++) {
+            due(23, Math.min(99999, 100 + 9999 * (i + 1)), "earn", ANN, 9999);
+        }
+        due(23, 99999, "earn", ANN, 9999);
+        fraction(30, 20, 1, "gain", ANN, 0);
+        fraction(31, 50, 1, "loss", ANN, 0);
+        due(39, 50, "trade", ANN, 0, 1);
+        due(17, 99999, "charge", ANN, 0, 1);
+        fraction(30, 20, 1, "gain", ANN, 0);
+        fraction(31, 50, 1, "loss", ANN, 0);
     }
 
     // "FRACTIONS .. without a common divisor, the bottom above 0; 0 is 0 by 1"
@@ -394,6 +432,11 @@ public final class VoteEdgeTests extends Trial {
         refused(37, 8, "friend", 2);
         fresh("person bob;deed a of bob fine 1 odds 1;");
         refused(37, 8, "friend", 0);
+        // By LOSS, not by GAIN: without SHARE and FIFTH all of these GAIN nothing.
+        fresh("share 0;fifth 0;person ann skill 2;person bob;person cid skill 1;deed a of bob fine 40 odds 4;");
+        fraction(30, 0, 1, "gain", ANN, 0);
+        fraction(30, 0, 1, "gain", CID, 0);
+        due(37, CID, "friend", 0);
     }
 
     // "The set of OPEN DEEDS that nobody who CAN is GLAD to charge": those, too, that nobody CAN.

@@ -19,6 +19,9 @@ public final class YearEdgeTests extends Trial {
         drops();
         anybody();
         anyWithout();
+        lastOnes();
+        earnings();
+        asItIsByThen();
         tests();
         comparisons();
         loops();
@@ -41,7 +44,7 @@ public final class YearEdgeTests extends Trial {
 
     private static void years(String text) {
         Check.promise(51);
-        Check.that("the years are taken: " + text, story.years(text) >= 0 && story.x.status() == 0);
+        Check.that("the years are taken: " + text, story.years(text) >= 0 && story.status() == 0);
     }
 
     private static void lives(int seed, int steps, int missed, int heard, int won, int owed, int left) {
@@ -199,6 +202,13 @@ public final class YearEdgeTests extends Trial {
         due(15, ANN, "deed", 0, 4);
         due(15, 1, "deed", 0, 5);
         due(15, 2, "deed", 0, 3);
+        // A RUINED one draws both, too.
+        fresh(CITY);
+        due(23, -1, "earn", BOB, -101);
+        years("any;any;");
+        lives(0, 2, 1, 1, 1, 0, 0);
+        due(15, CID, "deed", 1, 4);
+        due(15, 2, "deed", 1, 5);
         // By how many there are: with a fourth and a third one 2085 leaves 1, 3096 leaves 0.
         fresh(CITY + "person dot;");
         due(20, 2, "commit", ANN, 9, 16);
@@ -221,10 +231,79 @@ public final class YearEdgeTests extends Trial {
         years("any;any;any;");
         lives(0, 3, 3, 0, 0, 0, 0);
         // One DEED is drawn, too: of seed 0 ANN, 0; then 1, 1, 9 are left for the JURORS.
-        fresh("jurors 3;person ann;person bob;deed lie of bob fine 1 odds 2;");
+        fresh("jurors 3;person ann;person bob;deed lie of bob fine 1 odds 3;");
         years("any;");
         lives(0, 1, 0, 1, 1, 0, 0);
         due(15, 2, "deed", 0, 5);
+    }
+
+    private static final String FULL = "jurors 9;fifth 2;penalty 40;" + times("person p#;", 8)
+            + times("deed # of pa fine 1 odds 9;", 10);
+
+    // Of as many PEOPLE, DEEDS and JURORS as there can be
+    private static void lastOnes() {
+        // Of seed 145 PERSON 7, DEED 9; then 4, 1, 12, 6, 1, 0, 1, 13, 14.
+        fresh(FULL);
+        years("any;");
+        lives(145, 1, 0, 1, 1, 0, 0);
+        due(15, 7, "deed", 9, 4);
+        due(15, 6, "deed", 9, 5);
+        // Of seed 152 the same two; then 10, 4, 10, 6, 13, 5, 5, 15, 0.
+        fresh(FULL);
+        years("any;");
+        due(22, 1, "train", 0, 8);
+        lives(152, 1, 0, 1, 0, 1, 0);
+        due(15, 1, "deed", 9, 5);
+        fresh(FULL);
+        years("charge ph j;drop pg i for 7;earn ph 5;when open i;earn pg 3;end;when open j;earn pg 1;end;when coins ph > 104;"
+                + "earn pb 2;end;when ruined ph;any;end;");
+        // By seed 0: 14, 2, 1, 1, 9, 11, 4, 2, 4.
+        lives(0, 9, 0, 1, 1, 0, 0);
+        due(15, 7, "deed", 9, 4);
+        due(15, 6, "deed", 9, 5);
+        due(51, 110, "person", 6, 0);
+        due(51, 256, "person", 6, 5);
+        due(51, 102, "person", 1, 0);
+        due(51, 105, "person", 7, 0);
+        due(51, 92, "person", 0, 0);
+    }
+
+    // "earn: 1 to 999 COINS", by RUINED ones, too
+    private static void earnings() {
+        fresh(CITY);
+        due(23, -900, "earn", ANN, -1000);
+        years("earn ann 1;earn ann 898;earn bob 999;when ruined ann;earn ann 999;end;");
+        lives(0, 5, 0, 0, 0, 0, 0);
+        due(51, 998, "person", ANN, 0);
+        due(51, 1099, "person", BOB, 0);
+        due(51, 0, "many", 6);
+    }
+
+    // The YEARS go by what was done since: JURORS, FIFTH, PENALTY, SHARE, SKILL, COINS, DEEDS as they are.
+    private static void asItIsByThen() {
+        fresh(CITY);
+        years("charge ann lie;charge cid a;");
+        due(24, 1, "rule", 0, 1);
+        due(24, 1, "rule", 3, 16);
+        // Of seed 0: 14, 2.
+        lives(0, 2, 0, 2, 1, 1, 0);
+        due(51, 60, "person", ANN, 0);
+        due(51, 160, "person", CID, 0);
+        due(51, 40, "many", 6);
+        due(21, 1, "reopen", 0);
+        due(21, 1, "reopen", 1);
+        due(24, 1, "rule", 2, 5);
+        due(22, 1, "train", ANN, 5);
+        due(22, 1, "train", CID, 9);
+        due(24, 1, "rule", 1, 0);
+        lives(0, 2, 0, 2, 2, 0, 0);
+        due(21, 1, "reopen", 0);
+        due(22, 1, "train", BOB, 16);
+        due(24, 1, "rule", 1, 9);
+        due(24, 1, "rule", 0, 9);
+        due(51, 160, "person", ANN, 0);
+        lives(0, 2, 1, 1, 0, 1, 0);
+        due(51, 155, "person", ANN, 0);
     }
 
     // "when TEST: open NAME, or ruined NAME"
