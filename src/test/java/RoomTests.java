@@ -16,7 +16,7 @@ public final class RoomTests {
     }
 
     public static void main(String[] args) {
-        for (int seed = 0; seed < 400; seed++) {
+        for (int seed = 0; seed < 1500; seed++) {
             edges(new Random(seed));
         }
         room();
@@ -29,7 +29,8 @@ public final class RoomTests {
             Calls.city(x, CITY);
             Calls.years(x, YEARS);
         }
-        for (int i = 0; i < 512; i++) {
+        // With the feeds ahead and three calls each these stay below 512.
+        for (int i = 0; i < 150; i++) {
             int which = random.nextInt(Calls.NAMES.length);
             long[] a = new long[Calls.ARGUMENTS[which]];
             for (int k = 0; k < a.length; k++) {
