@@ -197,6 +197,9 @@ public final class DeedEdgeTests extends Trial {
         canNot(2, 0);
         due(25, 1, "reopen", 0);
         due(25, 1, "can", ANN, 0);
+        // Whose DEED it is may be RUINED.
+        due(25, -1, "earn", BOB, -101);
+        due(25, 1, "can", ANN, 0);
         due(25, 50, "charge", ANN, 0, 3);
         canNot(2, 0);
     }

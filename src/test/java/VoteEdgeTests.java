@@ -227,6 +227,8 @@ public final class VoteEdgeTests extends Trial {
         fraction(4, 63, 256, "votes", ANN, 0, 4);
         refused(3, 9, "wins", BOB, 0);
         refused(4, 5, "votes", ANN, 0, 10);
+        refused(3, 9, "chance", BOB, 0);
+        refused(4, 2, "best", 7);
         due(3, 63, "top");
         due(4, 256, "bottom");
         // By CHANCE 1: 999 times the ways to win, less 999 times 15 to the ninth.
@@ -239,6 +241,14 @@ public final class VoteEdgeTests extends Trial {
         due(24, 1, "rule", 3, 0);
         fraction(3, 0, 1, "gain", ANN, 1);
         fraction(4, 0, 1, "gain", ANN, 2);
+        // By other divisors than two
+        fresh(SURE + "person cid;deed a of bob fine 9 odds 16;deed b of bob fine 6 odds 16;");
+        fraction(3, 5, 1, "clubPart", 7);
+        fraction(4, 15, 2, "clubPart", 3);
+        due(24, 1, "rule", 3, 5);
+        due(23, 1099, "earn", BOB, 999);
+        due(11, 1, "years", story.feed("charge ann a;"));
+        fraction(3, 7, 1, "mean", 0, 7);
     }
 
     // "GLAD is somebody to charge, if his GAIN is above 0"; BEST, "with the greatest GAIN above 0"

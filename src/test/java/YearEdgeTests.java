@@ -466,6 +466,16 @@ public final class YearEdgeTests extends Trial {
         // The YEARS are there still.
         lives(0, 4, 2, 0, 0, 0, 0);
         due(51, 119, "person", CID, 0);
+        // By the same seed the same draws: 14, 2, 1
+        fresh(CITY);
+        due(22, 1, "train", BOB, 7);
+        years("charge ann lie;");
+        for (int time = 0; time < 3; time++) {
+            due(54, 1, "mark");
+            lives(0, 1, 0, 1, 1, 0, 0);
+            due(15, 2, "deed", 0, 5);
+            due(55, 0, "back");
+        }
     }
 
     // Promise 53: "by so many seeds (1 to 20) from one on", "(5: the last above 9,999, too; 8)"
@@ -655,6 +665,7 @@ public final class YearEdgeTests extends Trial {
             due(54, m, "mark");
             due(23, 100 + m, "earn", ANN, 1);
         }
+        refused(54, 7, "mark");
         for (int m = 2; m >= 0; m--) {
             due(55, m, "back");
             due(55, 100 + m, "person", ANN, 0);
