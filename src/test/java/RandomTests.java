@@ -5,7 +5,7 @@ import java.util.Random;
 
 /** Runs of calls by draws, each answer compared with the plain model's. */
 public final class RandomTests {
-    private static final int RUNS = 4000;
+    private static final int RUNS = 8000;
     private static final int MOST_CALLS = 512;
     private static final String[] WORDS = {"jurors", "fifth", "penalty", "share", "person", "coins", "skill", "deed",
         "of", "fine", "odds", "charge", "drop", "for", "earn", "any", "when", "open", "ruined", "loop", "end", "stop",
