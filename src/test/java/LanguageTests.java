@@ -30,6 +30,7 @@ public final class LanguageTests {
         ruledOut(source);
         methodLengths(source);
         recursion(source);
+        guards(source);
         face();
         insides();
         Check.end("LanguageTests");
@@ -83,6 +84,28 @@ public final class LanguageTests {
             }
         }
         Check.that(found + " methods that call themselves", found == 1);
+    }
+
+    // Rule 7: rows are reached, and divided is, only where the guard stands close by; a new place is looked at here first.
+    private static void guards(String source) {
+        String code = source.replaceAll("(?s)/\\*.*?\\*/", "").replaceAll("//[^\n]*", "").replaceAll("'(\\\\.|[^'])'", "0");
+        Set<String> places = new TreeSet<>();
+        Matcher m = Pattern.compile("\\b(?<!new )(\\w+\\[\\w[^\\]]*\\])").matcher(code);
+        while (m.find()) {
+            places.add(m.group(1));
+        }
+        Check.that("rows are reached at " + places, places.equals(new TreeSet<>(Arrays.asList("row[i]", "bytes[i]",
+                "bytes[length]", "marks[i]", "marks[marked]", "marks[latest]"))));
+        Set<String> divisors = new TreeSet<>();
+        m = Pattern.compile("[/%]=? *([\\w.(]+)").matcher(code);
+        while (m.find()) {
+            if (!m.group(1).matches("[1-9]\\d*")) {
+                divisors.add(m.group(1));
+            }
+        }
+        Check.that("divided is by " + divisors, divisors.equals(new TreeSet<>(Arrays.asList("common", "k", "less", "n",
+                "penalty"))));
+        Check.that("a cast of an object", !Pattern.compile("\\((?!int\\)|long\\)|byte\\)|short\\))[A-Z]\\w*\\) *\\w").matcher(code).find());
     }
 
     private static void face() {
